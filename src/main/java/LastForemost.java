@@ -573,9 +573,7 @@ public final class LastForemost {
         int n = people.count;
         resting.open(n, true);
         for (int row = 0; row < resting.rows; row++) {
-            for (int p = 0; p < n; p++) {
-                goingIn[p] = minuteInside(p, rules.settings[STEP] * resting.choice(row, p));
-            }
+            waitByRow(row);
             church.fill(goingIn, everybody(), rules.settings[LAW]);
             for (int p = 0; p < n; p++) {
                 resting.note(row, p, church.worth(p, goingIn[p]));
@@ -583,6 +581,17 @@ public final class LastForemost {
         }
         resting.settle();
         restingKnown = true;
+    }
+
+    /** From one row to the next only the last choices change, down to one that is not 0. */
+    private void waitByRow(int row) {
+        for (int p = people.count - 1; p >= 0; p--) {
+            int steps = resting.choice(row, p);
+            goingIn[p] = minuteInside(p, rules.settings[STEP] * steps);
+            if (steps != 0) {
+                return;
+            }
+        }
     }
 
     private void findChoosing() {
@@ -831,6 +840,7 @@ public final class LastForemost {
     /** Rows of one choice for each, and those rows that none would leave alone. */
     private static final class Game {
         private final int bits;
+        private final int lastChoice;
         private final int[] shifts = new int[MOST_PEOPLE];
         private int players = 0;
         private int[] worths = new int[0];
@@ -840,6 +850,7 @@ public final class LastForemost {
 
         Game(int bits) {
             this.bits = bits;
+            this.lastChoice = (1 << bits) - 1;
         }
 
         /** The first of the players leads where rows are put in order by numbers. */
@@ -848,18 +859,14 @@ public final class LastForemost {
             for (int p = 0; p < players; p++) {
                 shifts[p] = bits * (firstLeads ? players - 1 - p : p);
             }
-            rows = 1 << bits * players;
+            rows = 1 << (bits * players);
             if (worths.length < rows * players) {
                 worths = new int[rows * players];
             }
         }
 
         int choice(int row, int player) {
-            return row >> shifts[player] & choices() - 1;
-        }
-
-        private int choices() {
-            return 1 << bits;
+            return (row >> shifts[player]) & lastChoice;
         }
 
         void note(int row, int player, int worth) {
@@ -890,9 +897,10 @@ public final class LastForemost {
 
         private boolean wouldLeave(int row, int player) {
             int now = worths[row * players + player];
-            int without = row & ~(choices() - 1 << shifts[player]);
-            for (int c = 0; c < choices(); c++) {
-                int instead = without | c << shifts[player];
+            int shift = shifts[player];
+            int without = row & ~(lastChoice << shift);
+            for (int c = 0; c <= lastChoice; c++) {
+                int instead = without | (c << shift);
                 if (worths[instead * players + player] > now) {
                     return true;
                 }

@@ -394,6 +394,7 @@ public final class PromisesTest {
         due("rest(0), by single minutes", x.rest(0), 0);
         due("rest(1), by single minutes", x.rest(1), 1);
         LastForemost odd = with("090;064;051");
+        due("rest(0), without love", odd.rest(0) == NONE ? 1 : 0, 0);
         odd.love(0, 1, 14);
         odd.love(1, 2, 1);
         due("rest(NONE), none", odd.rest(NONE), 0);
@@ -458,6 +459,9 @@ public final class PromisesTest {
         due("change(3, 0)", x.change(3, 0), BAD);
         due("change(-1, 0)", x.change(-1, 0), BAD);
         due("change(0, -1)", x.change(0, -1), BAD);
+        LastForemost two = with("001;010");
+        two.love(0, 1, 5);
+        due("change(0, 1), still together", two.change(0, 1), 1);
         LastForemost pews = with("000;011;022;033");
         pews.set(3, 0);
         pews.love(0, 2, 5);
@@ -510,6 +514,14 @@ public final class PromisesTest {
         none.waits(0, 59);
         due("churches(0) is not stale", none.churches(0), 0);
         due("churches(0) by waiting", waited, 2);
+        none.waits(0, 0);
+        none.sheet(0, 0, 2);
+        none.lay(0, 0, 1, 59);
+        due("read(0)", none.read(0), 2);
+        due("churches(0) by reading", none.churches(0), 2);
+        due("churches(1) by reading", none.churches(1) == NONE ? 1 : 0, 0);
+        none.waits(1, 0);
+        due("churches(1), none again", none.churches(1), NONE);
         due("churches(2)", x.churches(2), BAD);
         due("churches(-1)", x.churches(-1), BAD);
     }
@@ -600,9 +612,19 @@ public final class PromisesTest {
         x.forget();
         x.front(0, 2);
         due("came(NONE), 2 is not there", x.came(NONE), 0);
-        x.forget();
-        x.front(2, 0);
-        due("came(NONE), 2 is not there", x.came(NONE), 0);
+        for (int law = 0; law <= 1; law++) {
+            x.set(1, law);
+            x.forget();
+            x.front(2, 0);
+            due("came(NONE), 2 is not there, law " + law, x.came(NONE), 0);
+            x.forget();
+            x.sat(2, 0);
+            due("came(NONE), 2 is not there, law " + law, x.came(NONE), 0);
+            x.forget();
+            x.sat(0, 1);
+            due("came(NONE), law " + law, x.came(NONE), 1);
+            due("came(0), law " + law, x.came(0), law == 0 ? 2 : 1);
+        }
     }
 
     private static void sure() {
@@ -748,7 +770,9 @@ public final class PromisesTest {
         due("sheet(0, 0, 60)", x.sheet(0, 0, 60), 60);
         due("get(0, 0, 59)", x.get(0, 0, 59), 0);
         x.lay(0, 0, 59, 5);
+        x.lay(0, 0, 0, 5);
         due("sheet(0, 0, 60) anew", x.sheet(0, 0, 60), 60);
+        due("get(0, 0, 0) anew", x.get(0, 0, 0), 0);
         due("get(0, 0, 59) anew", x.get(0, 0, 59), 0);
         due("sheet(3, 2, 0)", x.sheet(3, 2, 0), 0);
         due("sheet(4, 0, 1)", x.sheet(4, 0, 1), BAD);
@@ -909,6 +933,9 @@ public final class PromisesTest {
         for (int what = 0; what < counts.length; what++) {
             due("count(" + what + ")", x.count(what), counts[what]);
         }
+        x.set(0, 60);
+        due("count(6), all in", x.count(6), 3);
+        x.set(0, 30);
         int[] pews = {3, 2, 1, 1};
         for (int wide = 1; wide <= 4; wide++) {
             x.set(2, wide);
@@ -941,6 +968,7 @@ public final class PromisesTest {
         LastForemost x = with("104;053;202;101;300;596;005");
         x.love(0, 1, 9);
         x.sat(0, 2);
+        x.front(1, 2);
         x.sunday(3, 1);
         x.rain(59, 1);
         x.waits(2, 44);
