@@ -517,6 +517,7 @@ public final class PromisesTest {
         none.waits(0, 0);
         none.sheet(0, 0, 2);
         none.lay(0, 0, 1, 59);
+        due("churches(0) ahead of reading", none.churches(0), 0);
         due("read(0)", none.read(0), 2);
         due("churches(0) by reading", none.churches(0), 2);
         due("churches(1) by reading", none.churches(1) == NONE ? 1 : 0, 0);
