@@ -411,6 +411,7 @@ public final class PromisesTest {
         due("rest(NONE) of nobody", new LastForemost().rest(NONE), 1);
         due("rest(0) of nobody", new LastForemost().rest(0), BAD);
         restIsNotStale();
+        restOfMoreAndMore();
     }
 
     /** The answer is kept inside: all on which it stands must drop it. */
@@ -434,6 +435,21 @@ public final class PromisesTest {
         due("rest(2)", x.rest(2), 0);
         x.wipe();
         due("rest(2)", x.rest(2), BAD);
+    }
+
+    /** One more each time: with no care all rows are alike, 4 times as many each time. */
+    private static void restOfMoreAndMore() {
+        LastForemost x = new LastForemost();
+        x.set(3, 0);
+        int rows = 1;
+        for (int n = 1; n <= 6; n++) {
+            type(x, n == 1 ? "000" : ";000");
+            rows *= 4;
+            due("rest(NONE) of " + n, x.rest(NONE), rows);
+            due("churches(0) of " + n, x.churches(0), 1 << n);
+        }
+        type(x, ";000");
+        due("churches(0) of 7", x.churches(0), 128);
     }
 
     private static void change() {
@@ -679,6 +695,11 @@ public final class PromisesTest {
         due("fair(1, 0), all in one pew", three.fair(1, 0), 41);
         three.set(2, 1);
         due("fair(1, 0), each in one pew", three.fair(1, 0), 20);
+        LastForemost pair = with("000;000");
+        pair.love(0, 1, 6);
+        // Seats 0 and 1, the wish 0: 19 in the mean, and the other always in the same pew.
+        due("fair(0, 0) of two", pair.fair(0, 0), 25);
+        due("fair(0, 1) of two", pair.fair(0, 1), 1);
         due("fair(0, 0) of one", with("005").fair(0, 0), 10);
         due("fair(0, 1) of one", with("005").fair(0, 1), 1);
         due("fair(3, 0)", three.fair(3, 0), LONG_BAD);
