@@ -271,6 +271,19 @@ final class ChanceEdges extends Edges {
         due("sure(), of one who is not there", x.sure(), 0);
     }
 
+    @Sentence(promise = 23, says = "SURE: how many pairs.", edge = "a pair counts once")
+    void sureOfOnePair() {
+        for (int law = 0; law <= 1; law++) {
+            LastForemost x = with("000;000");
+            x.set(1, law);
+            x.front(1, 0);
+            due("sure(), law " + law, x.sure(), 1);
+            x.front(1, 0);
+            x.sat(0, 0);
+            due("sure(), told thrice, law " + law, x.sure(), 1);
+        }
+    }
+
     @Sentence(promise = 23, says = SURE_SAYS, edge = "full: all pairs")
     void sureOfAll() {
         LastForemost x = with(SEVEN);

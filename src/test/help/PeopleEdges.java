@@ -222,6 +222,36 @@ final class PeopleEdges extends Edges {
         }
     }
 
+    @Sentence(promise = 4, says = "three figures for each with ; between them, 7 at most (0 on)",
+        edge = "empty, one, full: numbers 0 to 6")
+    void nobodyToSeven() {
+        LastForemost x = new LastForemost();
+        for (int n = 0; n <= 7; n++) {
+            due("count(0) of " + n, x.count(0), n);
+            for (int p = 0; p < 7; p++) {
+                due("person(" + p + ", 0) of " + n, x.person(p, 0), p < n ? 11 * p % 60 : BAD);
+                due("person(" + p + ", 1) of " + n, x.person(p, 1), p < n ? 6 - p : BAD);
+            }
+            int minute = 11 * n % 60;
+            type(x, (n == 0 ? "" : ";") + minute / 10 + minute % 10 + (n == 7 ? 0 : 6 - n));
+        }
+        due("count(0) of eight", x.count(0), 0);
+    }
+
+    @Sentence(promise = 4, says = "The FAULT; NONE.", edge = "from one to the other and back")
+    void faultComesAndGoes() {
+        LastForemost x = new LastForemost();
+        int[] want = {1, 2, NONE, 4, 5, 6, NONE, 8};
+        for (int i = 0; i < want.length; i++) {
+            x.type(SEVEN.charAt(i));
+            due("fault() of " + (i + 1) + " bytes", x.fault(), want[i]);
+        }
+        x.type(255);
+        due("fault() of 255 behind them", x.fault(), 8);
+        x.wipe();
+        due("fault() of none", x.fault(), NONE);
+    }
+
     @Sentence(promise = 4, says = "the MINUTE at which one comes to the porch (00 to 59)",
         edge = "too large")
     void minuteTooLarge() {

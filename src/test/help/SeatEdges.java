@@ -144,6 +144,17 @@ final class SeatEdges extends Edges {
         due("has(1) of one", with("000").has(1), ANY_BAD);
     }
 
+    @Sentence(promise = 13, says = "where any number is told, it is -10000 less x.",
+        edge = "refused: the value, which none can have")
+    void anyNumberRefused() {
+        LastForemost x = with("006");
+        due("has(1) and 10000", x.has(1) + 10000, BAD);
+        due("best(1, 0) and 10000", x.best(1, 0) + 10000, BAD);
+        due("best(1, 1) and 10000", x.best(1, 1) + 10000, BAD);
+        due("best(0, 2) and 10000", x.best(0, 2) + 10000, BAD);
+        due("seat(1), where no such number is told", x.seat(1), BAD);
+    }
+
     @Sentence(promise = 13, says = HAS_SAYS, edge = "the least that one can have")
     void hasLeast() {
         LastForemost x = with("006");
@@ -465,6 +476,16 @@ final class SeatEdges extends Edges {
         due("changes() with a fault", with("001;010;").changes(), 0);
     }
 
+    @Sentence(promise = 17, says = "CHANGE: two who sit would change their SEATS (all else as it "
+        + "is), if both would HAVE more: how many pairs.", edge = "one only, or as much as before")
+    void changesForOneOnly() {
+        LastForemost x = with("001;010");
+        due("changes()", x.changes(), 1);
+        x.set(3, 0);
+        due("changes(), as much as before", x.changes(), 0);
+        due("changes(), 1 is well", with("001;011").changes(), 0);
+    }
+
     @Sentence(promise = 17, says = "How many pairs would change.", edge = "full, by the bell")
     void changesOfSeven() {
         // Off by |6 - 2a| and |6 - 2b|, changed both by |6 - a - b|: 0 6, 1 5, 2 4, 0 5, 1 4,
@@ -509,11 +530,6 @@ final class SeatEdges extends Edges {
         LastForemost behind = with("000;011");
         due("churches(0), 1 is well behind 0", behind.churches(0), 2);
         due("churches(1), 1 is well behind 0", behind.churches(1), 0);
-        // Only together by law 1 both are well, and by a little love none stays apart.
-        LastForemost ahead = with("001;010");
-        ahead.love(0, 1, 1);
-        due("churches(0), 1 is well ahead of 0", ahead.churches(0), 1);
-        due("churches(1), 1 is well ahead of 0", ahead.churches(1), 3);
     }
 
     @Sentence(promise = 18, says = "ways by which none would HAVE more by going to the other one "
@@ -526,6 +542,32 @@ final class SeatEdges extends Edges {
         x.love(1, 2, 4);
         due("churches(0)", x.churches(0), 0);
         due("churches(1)", x.churches(1), NONE);
+    }
+
+    @Sentence(promise = 18, says = "CHURCHES: each goes to the one (0: LAW 0) or the other one (1: "
+        + "LAW 1)", edge = "all in one of them")
+    void churchesAllInOne() {
+        // By law 0 both are well together, by law 1 the one who is first would rather be alone;
+        // and by a little love none stays apart.
+        LastForemost x = with("000;011");
+        x.love(0, 1, 1);
+        due("churches(0), all in 0", x.churches(0), 1);
+        due("churches(1), all in 0", x.churches(1), 0);
+        x = with("001;010");
+        x.love(0, 1, 1);
+        due("churches(0), all in 1", x.churches(0), 1);
+        due("churches(1), all in 1", x.churches(1), 3);
+        // One more who is outside in both and goes anywhere, behind these two or ahead of them.
+        x = with("001;010;590");
+        x.love(0, 1, 1);
+        x.set(0, 59);
+        due("churches(0), 2 is outside", x.churches(0), 2);
+        due("churches(1), 2 is outside", x.churches(1), 3);
+        x = with("590;001;010");
+        x.love(1, 2, 1);
+        x.set(0, 59);
+        due("churches(0), 0 is outside", x.churches(0), 2);
+        due("churches(1), 0 is outside", x.churches(1), 6);
     }
 
     @Sentence(promise = 18, says = "and sits there by the same BELL, PEWS, waiting as told",

@@ -547,7 +547,11 @@ final class SheetEdges extends Edges {
         due("digest() of " + what, x.digest(), h.longValue());
     }
 
-    @Sentence(promise = 36, says = "as longs that wrap.", edge = "a wrap-around")
+    @Sentence(promise = 36, says = "h is 17; h becomes 31 h and each of: count() 0 to 7; fault(); "
+        + "of PEOPLE person() 0 to 3, seat(), has(), best() 0, 1, rest() (as it is told), came(), "
+        + "fair(), late(), above and below each, lot(7, it); of SEATS 0 to 6 who(); rest(NONE) (as "
+        + "it is told), changes(), churches() 0, 1, came(NONE), sure(), allLate(), above, below; "
+        + "as longs that wrap.", edge = "a wrap-around")
     void digestWraps() {
         digestIs("nobody", new LastForemost());
         digestIs("a full text", States.full());
