@@ -186,23 +186,42 @@ final class ChanceEdges extends Edges {
 
     @Sentence(promise = 22, says = CAME_SAYS, edge = "one who is not there")
     void cameWithOneNotThere() {
-        for (int n = 0; n <= 6; n++) {
-            String text = n == 0 ? "" : SEVEN.substring(0, 4 * n - 1);
-            LastForemost x = with(text);
-            x.sat(n, 0);
-            due("came(NONE), " + n + " sat", x.came(NONE), 0);
-            x.forget();
-            if (n > 0) {
-                x.front(n, 0);
-                due("came(NONE), " + n + " in front", x.came(NONE), 0);
-                due("came(0), " + n + " in front", x.came(0), 0);
-                x.forget();
-                x.front(0, n);
-                due("came(NONE), in front of " + n, x.came(NONE), 0);
+        for (int law = 0; law <= 1; law++) {
+            for (int n = 0; n <= 6; n++) {
+                cameWithoutNumber(n, law);
             }
-            type(x, n == 0 ? "000" : ";000");
-            due("came(NONE), now " + n + " is there", x.came(NONE) > 0 ? 1 : 0, 1);
         }
+    }
+
+    private void cameWithoutNumber(int n, int law) {
+        LastForemost x = with(n == 0 ? "" : SEVEN.substring(0, 4 * n - 1));
+        x.set(1, law);
+        x.sat(n, 0);
+        due("came(NONE), " + n + " sat, law " + law, x.came(NONE), 0);
+        if (n > 0) {
+            x.forget();
+            x.front(n, 0);
+            due("came(NONE), " + n + " in front, law " + law, x.came(NONE), 0);
+            due("came(0), " + n + " in front, law " + law, x.came(0), 0);
+            x.forget();
+            x.front(0, n);
+            due("came(NONE), in front of " + n + ", law " + law, x.came(NONE), 0);
+        }
+        type(x, n == 0 ? "000" : ";000");
+        due("came(NONE), now " + n + " is there, law " + law, x.came(NONE) > 0 ? 1 : 0, 1);
+    }
+
+    @Sentence(promise = 22, says = CAME_SAYS, edge = "a place that would leave none for another")
+    void cameWhereAnotherMustBe() {
+        LastForemost x = with("000;000;000");
+        x.sat(2, 0);
+        due("came(NONE)", x.came(NONE), 2);
+        due("came(0), not as the first", x.came(0), 6);
+        due("came(1), not as the first", x.came(1), 6);
+        due("came(2), as the first", x.came(2), 1);
+        x.set(1, 1);
+        due("came(0) by law 1, not as the last", x.came(0), 3);
+        due("came(2) by law 1, as the last", x.came(2), 4);
     }
 
     @Sentence(promise = 22, says = CAME_SAYS, edge = "a seat too large for so many")
@@ -358,6 +377,19 @@ final class ChanceEdges extends Edges {
         x.set(2, 3);
         // Six have two beside them: each other one in 2 of 7 orders.
         fraction("fair(0), three to a pew", x.fair(0, 0), x.fair(0, 1), 380, 7);
+    }
+
+    @Sentence(promise = 24, says = FAIR_SAYS, edge = "one, two: always or never in one pew")
+    void fairOfOneAndTwo() {
+        LastForemost x = with("000");
+        x.love(0, 1, 7);
+        fraction("fair(0) of one", x.fair(0, 0), x.fair(0, 1), 20, 1);
+        type(x, ";000");
+        fraction("fair(0) of two", x.fair(0, 0), x.fair(0, 1), 26, 1);
+        x.set(2, 1);
+        fraction("fair(0) of two, one to a pew", x.fair(0, 0), x.fair(0, 1), 19, 1);
+        x.set(3, 1);
+        fraction("fair(0) of two, little care", x.fair(0, 0), x.fair(0, 1), 39, 2);
     }
 
     @Sentence(promise = 24, says = FAIR_SAYS, edge = "all outside by the bell, wet as told")

@@ -410,6 +410,12 @@ final class SeatEdges extends Edges {
         due("rest(0)", x.rest(0), NONE);
         due("rest(1)", x.rest(1), NONE);
         due("rest(2)", x.rest(2), BAD);
+        x.set(4, 0);
+        due("rest(NONE), no soaking", x.rest(NONE), 4);
+        due("rest(1), no soaking", x.rest(1), 3);
+        x.set(4, 4);
+        due("rest(NONE), none again", x.rest(NONE), 0);
+        due("rest(1), none again", x.rest(1), NONE);
     }
 
     // ---- 16
@@ -465,6 +471,21 @@ final class SeatEdges extends Edges {
         like.set(3, 1);
         due("change(0, 1), one more for both", like.change(0, 1), 1);
         due("seat(0) is as it was", like.seat(0), 0);
+    }
+
+    @Sentence(promise = 16, says = "CHANGE: two who sit would change their SEATS (all else as it "
+        + "is), if both would HAVE more", edge = "other pews, and the same pew")
+    void changeOfPews() {
+        LastForemost x = with("000;010;020;030");
+        x.set(3, 0);
+        x.love(0, 2, 5);
+        x.love(1, 3, 5);
+        due("change(1, 2), each to whom it loves", x.change(1, 2), 1);
+        due("change(0, 3), each to whom it loves", x.change(0, 3), 1);
+        due("change(0, 1), the same pew", x.change(0, 1), 0);
+        due("change(0, 2), each loves the other alone", x.change(0, 2), 0);
+        x.love(1, 3, 0);
+        due("change(1, 2), one only has more", x.change(1, 2), 0);
     }
 
     // ---- 17
@@ -542,6 +563,12 @@ final class SeatEdges extends Edges {
         x.love(1, 2, 4);
         due("churches(0)", x.churches(0), 0);
         due("churches(1)", x.churches(1), NONE);
+        x.set(0, 0);
+        due("churches(0), all outside", x.churches(0), 8);
+        due("churches(1), all outside", x.churches(1), 0);
+        x.set(0, 60);
+        due("churches(0), none again", x.churches(0), 0);
+        due("churches(1), none again", x.churches(1), NONE);
     }
 
     @Sentence(promise = 18, says = "CHURCHES: each goes to the one (0: LAW 0) or the other one (1: "

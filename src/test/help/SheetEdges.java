@@ -1,6 +1,8 @@
 import java.math.BigInteger;
 import java.util.ArrayList;
 import java.util.List;
+import java.util.Random;
+import java.util.function.Consumer;
 
 /** Edges of promises 29 to 36: sheets, counts, the digest. */
 final class SheetEdges extends Edges {
@@ -572,6 +574,59 @@ final class SheetEdges extends Edges {
             h = h.multiply(BigInteger.valueOf(31)).add(BigInteger.valueOf(one));
         }
         due("digest()", new LastForemost().digest(), h.longValue());
+    }
+
+    private static Consumer<LastForemost> someChange(Random random) {
+        int p = random.nextInt(4);
+        int q = random.nextInt(4);
+        int minute = random.nextInt(40);
+        int small = random.nextInt(4);
+        switch (random.nextInt(9)) {
+            case 0:
+                return x -> x.waits(p, minute);
+            case 1:
+                return x -> x.rain(minute, small % 2);
+            case 2:
+                return x -> x.love(p, q, 5 * small);
+            case 3:
+                return x -> x.set(small, small == 0 ? 20 + minute : small == 1 ? p % 2 : q + 1);
+            case 4:
+                return x -> x.set(4 + small % 2, 1 + q);
+            case 5:
+                return x -> x.sat(p, q);
+            case 6:
+                return x -> x.front(p, q);
+            case 7:
+                return small == 0 ? x -> x.forget() : x -> x.sunday(p, q % 2);
+            default:
+                return small > 0 ? x -> x.read(q) : x -> {
+                    x.wipe();
+                    type(x, "10" + p + ";12" + q + ";093;110");
+                };
+        }
+    }
+
+    @Sentence(promise = 36, says = "An object is used for at most 512 calls after it has been made",
+        edge = "asked behind every change, as one who was never asked")
+    void digestIsNotStale() {
+        for (int seed = 0; seed < 12; seed++) {
+            Random random = new Random(seed);
+            List<Consumer<LastForemost>> changes = new ArrayList<>();
+            changes.add(x -> type(x, "101;120;093;110"));
+            changes.add(x -> x.sheet(0, 0, 3));
+            changes.add(x -> x.lay(0, 0, 1, 20));
+            LastForemost x = new LastForemost();
+            int done = 0;
+            for (int i = 0; i < 60; i++) {
+                changes.add(someChange(random));
+                for (; done < changes.size(); done++) {
+                    changes.get(done).accept(x);
+                }
+                LastForemost y = new LastForemost();
+                changes.forEach(change -> change.accept(y));
+                due("digest() behind change " + i + " of " + seed, x.digest(), y.digest());
+            }
+        }
     }
 
     @Sentence(promise = 36, says = "rest(NONE) (as it is told)", edge = "full: REST of seven")
