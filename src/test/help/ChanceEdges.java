@@ -348,6 +348,9 @@ final class ChanceEdges extends Edges {
         // Seats 0, 1 and 2: -34, -25 and -16, in the mean -25.
         type(x, ";000");
         fraction("fair(0) of three", x.fair(0, 0), x.fair(0, 1), -25, 1);
+        // Seats 0 to 3: -82 in all, by four.
+        type(x, ";000");
+        fraction("fair(0) of four", x.fair(0, 0), x.fair(0, 1), -41, 2);
     }
 
     @Sentence(promise = 24, says = FRACTIONS_SAY, edge = "0 by 1")

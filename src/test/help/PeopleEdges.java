@@ -135,6 +135,21 @@ final class PeopleEdges extends Edges {
     }
 
     @Sentence(promise = 3, says = "PEOPLE are empty: how many bytes they had.",
+        edge = "empty, though it was asked before")
+    void wipeOfWhatWasAsked() {
+        LastForemost x = with("000;010;020");
+        due("came(NONE)", x.came(NONE), 6);
+        due("rest(NONE) is more than one row", x.rest(NONE) > 1 ? 1 : 0, 1);
+        due("churches(1)", x.churches(1) > 0 ? 1 : 0, 1);
+        x.wipe();
+        due("came(NONE) of nobody", x.came(NONE), 1);
+        due("rest(NONE) of nobody", x.rest(NONE), 1);
+        due("churches(0) of nobody", x.churches(0), 1);
+        due("churches(1) of nobody", x.churches(1), 0);
+        due("sure() of nobody", x.sure(), 0);
+    }
+
+    @Sentence(promise = 3, says = "PEOPLE are empty: how many bytes they had.",
         edge = "nothing of the former text")
     void wipeLeavesNothing() {
         LastForemost x = with("596;596;596");

@@ -486,6 +486,13 @@ final class SeatEdges extends Edges {
         due("change(0, 2), each loves the other alone", x.change(0, 2), 0);
         x.love(1, 3, 0);
         due("change(1, 2), one only has more", x.change(1, 2), 0);
+        x.love(0, 3, 5);
+        due("change(0, 2), 0 comes to 3, but 2 to none", x.change(0, 2), 0);
+        x.love(0, 3, 0);
+        x.love(2, 1, 5);
+        due("change(0, 2), 2 comes to 1, but 0 to none", x.change(0, 2), 0);
+        x.love(0, 3, 5);
+        due("change(0, 2), 2 comes to 1 and 0 to 3", x.change(0, 2), 1);
     }
 
     // ---- 17
