@@ -541,6 +541,23 @@ public final class PromisesTest {
         due("churches(1), none again", none.churches(1), NONE);
         due("churches(2)", x.churches(2), BAD);
         due("churches(-1)", x.churches(-1), BAD);
+        churchesHaveLawsOfTheirOwn();
+    }
+
+    /** LAW as it is set bears on neither of the two churches. */
+    private static void churchesHaveLawsOfTheirOwn() {
+        LastForemost onlyIn0 = with("000;011");
+        onlyIn0.love(0, 1, 1);
+        LastForemost onlyIn1 = with("001;010");
+        onlyIn1.love(0, 1, 1);
+        for (int law = 0; law <= 1; law++) {
+            onlyIn0.set(1, law);
+            onlyIn1.set(1, law);
+            due("churches(0), well by law 0, LAW " + law, onlyIn0.churches(0), 1);
+            due("churches(1), well by law 0, LAW " + law, onlyIn0.churches(1), 0);
+            due("churches(0), well by law 1, LAW " + law, onlyIn1.churches(0), 1);
+            due("churches(1), well by law 1, LAW " + law, onlyIn1.churches(1), 3);
+        }
     }
 
     private static void sat() {
@@ -641,7 +658,37 @@ public final class PromisesTest {
             x.sat(0, 1);
             due("came(NONE), law " + law, x.came(NONE), 1);
             due("came(0), law " + law, x.came(0), law == 0 ? 2 : 1);
+            cameBySeveralFactsOfOne(law);
         }
+    }
+
+    private static void cameBySeveralFactsOfOne(int law) {
+        LastForemost x = with("000;000;000;000");
+        x.set(1, law);
+        x.front(0, 1);
+        x.front(0, 2);
+        due("came(NONE), 0 ahead of two, law " + law, x.came(NONE), 8);
+        due("came(0), 0 ahead of two, law " + law, x.came(0), law == 0 ? 12 : 3);
+        x.front(0, 3);
+        due("came(NONE), 0 ahead of all, law " + law, x.came(NONE), 6);
+        due("came(0), 0 ahead of all, law " + law, x.came(0), law == 0 ? 8 : 1);
+        due("sure(), 0 ahead of all, law " + law, x.sure(), 3);
+        x.forget();
+        x.front(1, 0);
+        x.front(2, 0);
+        due("came(NONE), 0 behind two, law " + law, x.came(NONE), 8);
+        due("came(0), 0 behind two, law " + law, x.came(0), law == 0 ? 3 : 12);
+        x.front(3, 0);
+        due("came(NONE), 0 behind all, law " + law, x.came(NONE), 6);
+        due("came(0), 0 behind all, law " + law, x.came(0), law == 0 ? 1 : 8);
+        due("sure(), 0 behind all, law " + law, x.sure(), 3);
+        x.forget();
+        x.sat(0, 1);
+        x.front(0, 3);
+        x.sat(0, 1);
+        due("came(NONE), 3 is behind 0, law " + law, x.came(NONE), 2);
+        due("came(3), 3 is behind 0, law " + law, x.came(3), law == 0 ? 1 : 8);
+        due("sure(), 3 is behind 0, law " + law, x.sure(), 5);
     }
 
     private static void sure() {
@@ -700,6 +747,12 @@ public final class PromisesTest {
         // Seats 0 and 1, the wish 0: 19 in the mean, and the other always in the same pew.
         due("fair(0, 0) of two", pair.fair(0, 0), 25);
         due("fair(0, 1) of two", pair.fair(0, 1), 1);
+        pair.love(0, 2, 20);
+        due("fair(0, 0), love of one who is not there", pair.fair(0, 0), 25);
+        type(pair, ";000");
+        // Of three seats 18 in the mean; each other one beside 0 in two orders of six.
+        due("fair(0, 0), love of one who is there", pair.fair(0, 0), 80);
+        due("fair(0, 1), love of one who is there", pair.fair(0, 1), 3);
         due("fair(0, 0) of one", with("005").fair(0, 0), 10);
         due("fair(0, 1) of one", with("005").fair(0, 1), 1);
         due("fair(3, 0)", three.fair(3, 0), LONG_BAD);
