@@ -345,6 +345,13 @@ public final class PromisesTest {
         due("has(5)", x.has(5), ANY_BAD);
         due("has(-1)", x.has(-1), ANY_BAD);
         due("has(least)", x.has(LEAST), ANY_BAD);
+        LastForemost apart = with("100;300");
+        apart.waits(0, 10);
+        apart.waits(1, 10);
+        apart.rain(15, 1);
+        apart.rain(35, 1);
+        due("has(0), wet once", apart.has(0), 19);
+        due("has(1), wet once, the rain ahead of its minute aside", apart.has(1), 17);
     }
 
     private static void best() {
@@ -372,6 +379,11 @@ public final class PromisesTest {
         late.set(0, 55);
         due("best(0, 0), outside is better", late.best(0, 0), 5);
         due("best(0, 1), outside is better", late.best(0, 1), 0);
+        LastForemost between = with("100;202;300");
+        between.rain(25, 1);
+        // Waiting till behind 2, 1 has its seat and is wet once; at once it is one seat off.
+        due("best(1, 0), wet on the way", between.best(1, 0), 11);
+        due("best(1, 1), wet on the way", between.best(1, 1), 19);
         due("best(2, 0)", x.best(2, 0), ANY_BAD);
         due("best(-1, 0)", x.best(-1, 0), ANY_BAD);
         due("best(0, 2)", x.best(0, 2), ANY_BAD);
@@ -486,6 +498,40 @@ public final class PromisesTest {
         due("change(1, 2) for love", pews.change(1, 2), 1);
         due("change(0, 3) for love", pews.change(0, 3), 1);
         due("change(0, 1) in a pew", pews.change(0, 1), 0);
+        changeInRain();
+        changeRoundAbout();
+    }
+
+    /** All else is as it is: the rain of neither bears on the change. */
+    private static void changeInRain() {
+        String[] texts = {"101;300", "100;300", "101;301", "100;301"};
+        int[] want = {1, 0, 0, 0};
+        for (int i = 0; i < texts.length; i++) {
+            LastForemost x = with(texts[i]);
+            x.set(4, 9);
+            x.rain(5, 1);
+            x.rain(20, 1);
+            due("change(0, 1) in rain, " + texts[i], x.change(0, 1), want[i]);
+            due("change(1, 0) in rain, " + texts[i], x.change(1, 0), want[i]);
+            due("changes() in rain, " + texts[i], x.changes(), want[i]);
+        }
+    }
+
+    /** Who sits on the seat of one's number is another one than whose number is one's seat. */
+    private static void changeRoundAbout() {
+        String[] texts = {"200;002;101", "201;000;102", "202;001;100", "200;001;102"};
+        int[][] want = {{1, 0, 0}, {0, 1, 0}, {0, 0, 1}, {0, 1, 0}};
+        for (int i = 0; i < texts.length; i++) {
+            LastForemost x = with(texts[i]);
+            x.set(2, 1);
+            due("seat(0) of " + texts[i], x.seat(0), 2);
+            due("seat(1) of " + texts[i], x.seat(1), 0);
+            due("seat(2) of " + texts[i], x.seat(2), 1);
+            due("change(0, 1) of " + texts[i], x.change(0, 1), want[i][0]);
+            due("change(0, 2) of " + texts[i], x.change(0, 2), want[i][1]);
+            due("change(1, 2) of " + texts[i], x.change(1, 2), want[i][2]);
+            due("changes() of " + texts[i], x.changes(), want[i][0] + want[i][1] + want[i][2]);
+        }
     }
 
     private static void changes() {
@@ -500,6 +546,14 @@ public final class PromisesTest {
         x.set(1, 1);
         due("changes() by law 1", x.changes(), 0);
         due("seat(0)", x.seat(0), 3);
+        LastForemost fewer = with("000;010;020;030");
+        fewer.love(3, 4, 20);
+        due("changes(), love of one who is not there", fewer.changes(), 0);
+        type(fewer, ";040");
+        due("changes(), love of one in another pew", fewer.changes(), 0);
+        fewer.wipe();
+        type(fewer, "000;010;020;030");
+        due("changes(), love of one who is gone", fewer.changes(), 0);
     }
 
     private static void churches() {
@@ -659,7 +713,21 @@ public final class PromisesTest {
             due("came(NONE), law " + law, x.came(NONE), 1);
             due("came(0), law " + law, x.came(0), law == 0 ? 2 : 1);
             cameBySeveralFactsOfOne(law);
+            cameOfFewer(law);
         }
+    }
+
+    private static void cameOfFewer(int law) {
+        LastForemost x = with("000;000;000;000;000;000;000");
+        x.set(1, law);
+        due("came(NONE) of seven, law " + law, x.came(NONE), 5040);
+        x.wipe();
+        type(x, "000;000;000");
+        x.sat(2, 0);
+        due("came(NONE) of three, law " + law, x.came(NONE), 2);
+        due("came(0) of three, law " + law, x.came(0), law == 0 ? 6 : 3);
+        due("came(2) of three, law " + law, x.came(2), law == 0 ? 1 : 4);
+        due("sure() of three, law " + law, x.sure(), 2);
     }
 
     private static void cameBySeveralFactsOfOne(int law) {
